@@ -264,6 +264,32 @@ public final class PromiseTest {
         }
         due("9 the oldest are forgotten", x.count(2), 6);
         due("9 STATE", x.undo(), STATE);
+        manyActsOfAllSorts();
+    }
+
+    /** 25 acts, no two neighbours of one sort: what is kept of each must move together. */
+    private static void manyActsOfAllSorts() {
+        ShaftDiscs x = Checks.shaftOf(EACH);
+        for (int round = 0; round < 5; round++) {
+            x.change(round, 0, 5 - round);
+            x.become(5, 5 - round);
+            x.mark(100 + round);
+            x.swap(round, 5);
+            x.change(2, 1, 40 - round);
+        }
+        due("9 24 at most", x.count(5), 24);
+        for (int left = 23; left >= 0; left--) {
+            due("9 undo", x.undo(), left);
+        }
+        due("9 all but the first act is undone", x.disc(0, 0), 5);
+        int[][] want = {{5, 30, 0, 1}, {1, 20, 7, 2}, {1, 10, 3, 3}, {2, 8, 5, 4}, {1, 7, 2, 5}, {1, 9, 9, 1}};
+        for (int disc = 0; disc < 6; disc++) {
+            for (int which = 0; which < 3; which++) {
+                due("9 told " + disc + " " + which, x.disc(disc, which), want[disc][which]);
+            }
+            due("9 kind " + disc, x.kind(disc), want[disc][3]);
+        }
+        due("9 mark", x.count(2), 15);
     }
 
     private static void promises10to13() {
@@ -542,6 +568,9 @@ public final class PromiseTest {
         fractionDue(x, 2, 0, 0, 1);
         fractionDue(x, 2, 10, 1, 1);
         due("25 nothing changes", x.disc(0, 1), 10);
+        x.mark(1);
+        fractionDue(x, 2, 3, 3, 10);
+        x.mark(10);
         // three discs of 1, springs of 10: at 0, 10, 30; one broken: 0, 0, 20; both: 0, 0, 0
         ShaftDiscs y = Checks.shaftOf("m1,0;p1,10,0;p1,10,0;p1,10,0;");
         fractionDue(y, 1, 3, 49, 100);
