@@ -32,6 +32,8 @@ public final class ShaftDiscs {
     private static final int[] MARK_BODY = {20, 21, 24, 22, 23, 23};
     private static final int DEEPEST_BODY = 12;
 
+    private static final long LEAST_LONG = 1L << 63;
+
     private final int[] lanes = new int[ROWS];
     private final int[] sizes = new int[ROWS];
     private final int[][] items = new int[ROWS][MOST_ITEMS];
@@ -813,7 +815,7 @@ public final class ShaftDiscs {
             long product = a * b;
             if (a == -1) {
                 // the division below would wrap around just as the product does
-                over |= b == Long.MIN_VALUE;
+                over |= b == LEAST_LONG;
             } else if (a != 0) {
                 over |= product / a != b;
             }
