@@ -945,7 +945,7 @@ public final class ShaftDiscs {
             int what = whats[size];
             if (what == MARK) {
                 shaft.mark = befores[size];
-            } else if (what == PLACES && shaft.has(befores[size])) {
+            } else if (what == PLACES && shaft.has(ones[size]) && shaft.has(befores[size])) {
                 shaft.exchange(ones[size], befores[size]);
             } else if (what >= 0 && what < TOLD && shaft.has(ones[size])) {
                 shaft.told[what][ones[size]] = befores[size];

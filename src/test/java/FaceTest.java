@@ -1,3 +1,5 @@
+import com.sun.management.ThreadMXBean;
+import java.lang.management.ManagementFactory;
 import java.lang.reflect.Constructor;
 import java.lang.reflect.Field;
 import java.lang.reflect.Member;
@@ -6,9 +8,14 @@ import java.lang.reflect.Modifier;
 import java.nio.charset.StandardCharsets;
 import java.nio.file.Files;
 import java.nio.file.Path;
+import java.util.ArrayList;
+import java.util.Arrays;
+import java.util.Comparator;
+import java.util.List;
 import java.util.Random;
 import java.util.Set;
 import java.util.TreeSet;
+import java.util.regex.Matcher;
 import java.util.regex.Pattern;
 
 /** The public face, what LANGUAGE.md forbids as far as a text tells it, and that no call throws. */
@@ -30,6 +37,8 @@ public final class FaceTest {
     public static void main(String[] args) throws Exception {
         face();
         language();
+        shapes();
+        room();
         wildCalls();
         C.end("FaceTest");
     }
@@ -78,14 +87,57 @@ public final class FaceTest {
         Path file = Path.of(System.getProperty("project", "."), "src/main/java/ShaftDiscs.java");
         String text = Files.readString(file, StandardCharsets.US_ASCII);
         String code = text.replaceAll("(?s)/\\*.*?\\*/", "").replaceAll("//[^\n]*", "");
-        for (String word : "throw try catch synchronized assert import package Exact -> :: yield".split(" ")) {
-            boolean plain = Character.isLetter(word.charAt(0)) && !word.equals("Exact");
-            String pattern = plain ? "\\b" + word + "\\b" : word;
-            C.holds("the program has no " + word, !Pattern.compile(pattern).matcher(code).find());
+        String words = "package throw throws try catch synchronized assert volatile native Thread Random System.out "
+                + "System.nanoTime System.currentTimeMillis Object Class java.io java.nio";
+        for (String word : words.split(" ")) {
+            boolean has = Pattern.compile("\\b" + Pattern.quote(word) + "\\b").matcher(code).find();
+            C.holds("the program has no " + word, !has);
         }
-        C.holds("nothing is made but as a field",
-                !Pattern.compile("^ {8}.*\\bnew ", Pattern.MULTILINE).matcher(
-                        code.replaceAll("private final [^\n]*\\bnew [^\n]*", "")).find());
+        C.holds("no function that ends in Exact", !Pattern.compile("Exact\\s*\\(").matcher(code).find());
+        C.holds("no method reference", !code.contains("::"));
+        C.holds("no lambda", !Pattern.compile("->").matcher(code.replaceAll("(case [^\n>]*|default )->", "")).find());
+        Matcher imports = Pattern.compile("\\bimport\\s+([\\w.]+)").matcher(code);
+        while (imports.find()) {
+            String name = imports.group(1);
+            C.holds("imports " + name, name.matches("java\\.util\\.(ArrayList|List|Arrays|Iterator)"));
+        }
+    }
+
+    /** Rules 1, 5 and 11, as the compiled classes tell them. */
+    private static void shapes() {
+        List<Class<?>> all = new ArrayList<>(List.of(ShaftDiscs.class.getDeclaredClasses()));
+        all.add(ShaftDiscs.class);
+        C.holds("some twelve classes: " + all.size(), all.size() <= 12);
+        for (Class<?> type : all) {
+            int fields = 0;
+            for (Field field : type.getDeclaredFields()) {
+                boolean fixed = Modifier.isStatic(field.getModifiers());
+                fields += fixed ? 0 : 1;
+                C.holds("static fields are final: " + field, !fixed || Modifier.isFinal(field.getModifiers()));
+            }
+            C.holds("some twenty fields: " + type, fields <= 20);
+            for (Method method : type.getDeclaredMethods()) {
+                C.holds("seven parameters at most: " + method, method.getParameterCount() <= 7);
+            }
+        }
+    }
+
+    /** All calls of a run live in one room of 600,000 objects and 7.3 million fields and elements. */
+    private static void room() {
+        ThreadMXBean threads = (ThreadMXBean) ManagementFactory.getThreadMXBean();
+        long before = threads.getCurrentThreadAllocatedBytes();
+        ShaftDiscs x = Checks.shaftOf("m5,0;t1,40,9;t1,40,9;t1,40,9;t1,40,9;t1,40,9;t1,40,9;");
+        x.row(0, 2, 40);
+        for (int call = 0; call < 75; call++) {
+            x.row(call % 8, 2, 40);
+            x.who(call % 6, 2, 0, 0, 6);
+            x.byTurns(3);
+            x.broken(3, 3, 0);
+            x.drawn(40, 9, 0);
+            x.clear(0, 9);
+        }
+        long made = threads.getCurrentThreadAllocatedBytes() - before;
+        C.holds("a run makes no more than fits the room: " + made + " bytes", made < 7300000L * 4);
     }
 
     private static void wildCalls() throws Exception {
@@ -93,6 +145,8 @@ public final class FaceTest {
         String[] texts = {"", "m1,5;p2,30,0;g1,20,7;w1,10,3;t2,8,5;s1,7,2;p1,9,9;", "m0,0;p1,0,0;p1,0,0;",
             "m20,0;g5,40,9;g5,40,9;g5,40,9;g5,40,9;g5,40,9;g5,40,9;"};
         Method[] methods = ShaftDiscs.class.getDeclaredMethods();
+        // the order in which the machine names them is free
+        Arrays.sort(methods, Comparator.comparing(Method::toString));
         for (int run = 0; run < 400; run++) {
             ShaftDiscs x = new ShaftDiscs();
             Checks.read(x, texts[run % texts.length]);
